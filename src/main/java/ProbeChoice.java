@@ -319,7 +319,7 @@ public final class ProbeChoice {
             markClashes(board);
             // One below a choice that can be had: the first choice as good as that one is still
             // taken, and all that can't be as good is passed over from the start.
-            bestWorth = mostWorthFrom(0, 0, true) - 1;
+            bestWorth = worthOfPlainChoice() - 1;
             descend(this, 0, 0L, 0);
         }
 
@@ -339,22 +339,22 @@ public final class ProbeChoice {
             }
         }
 
+        /** A slot only has to know its clashes with later nets, as nets are decided in their order. */
         private void markClashes(Board board) {
             Arrays.fill(clashes, 0);
-            for (int i = 1; i < looked; i++) {
-                for (int a = i * POINTS_A_NET; a < endOf(i); a++) {
-                    for (int k = 0; k < i; k++) {
-                        markClashesWithNet(board, a, k);
+            for (int i = 0; i < looked; i++) {
+                for (int slot = i * POINTS_A_NET; slot < endOf(i); slot++) {
+                    for (int later = i + 1; later < looked; later++) {
+                        markClashesWithNet(board, slot, later);
                     }
                 }
             }
         }
 
-        private void markClashesWithNet(Board board, int a, int i) {
-            for (int b = i * POINTS_A_NET; b < endOf(i); b++) {
-                if (!board.canBothBeProbes(points[a], points[b])) {
-                    clashes[a] |= 1 << b;
-                    clashes[b] |= 1 << a;
+        private void markClashesWithNet(Board board, int slot, int i) {
+            for (int other = i * POINTS_A_NET; other < endOf(i); other++) {
+                if (!board.canBothBeProbes(points[slot], points[other])) {
+                    clashes[slot] |= 1 << other;
                 }
             }
         }
@@ -364,19 +364,27 @@ public final class ProbeChoice {
             return i * POINTS_A_NET + sizes[i];
         }
 
-        /**
-         * What the nets from the i-th on are worth when each takes its best slot that is not
-         * blocked: with keepsClashes it is the worth of a real choice; without, no real choice is
-         * worth more.
-         */
-        private long mostWorthFrom(int i, int blocked, boolean keepsClashes) {
+        /** The worth of the choice in which each net takes its best slot that is still free. */
+        private long worthOfPlainChoice() {
             long sum = 0;
-            int closed = blocked;
-            for (int k = i; k < looked; k++) {
-                int slot = bestSlot(k, closed);
+            int blocked = 0;
+            for (int i = 0; i < looked; i++) {
+                int slot = bestSlot(i, blocked);
                 if (slot != NONE) {
                     sum += worths[slot];
-                    closed |= keepsClashes ? clashes[slot] : 0;
+                    blocked |= clashes[slot];
+                }
+            }
+            return sum;
+        }
+
+        /** No choice for the nets from the i-th on is worth more, as it leaves out their clashes. */
+        private long mostWorthFrom(int i, int blocked) {
+            long sum = 0;
+            for (int k = i; k < looked; k++) {
+                int slot = bestSlot(k, blocked);
+                if (slot != NONE) {
+                    sum += worths[slot];
                 }
             }
             return sum;
@@ -397,7 +405,7 @@ public final class ProbeChoice {
          * worth the same, so that only a better one takes the place of the best one so far.
          */
         private static void descend(Search s, int depth, long worth, int blocked) {
-            if (worth + s.mostWorthFrom(depth, blocked, false) <= s.bestWorth) {
+            if (worth + s.mostWorthFrom(depth, blocked) <= s.bestWorth) {
                 return;
             }
             if (depth >= s.looked || depth >= MOST_LOOKED_AT) {

@@ -11,6 +11,7 @@ public final class PromiseTest {
         gapIsExactAndStraight();
         run();
         runPrefersMostThenForceThenLowest();
+        runPrefersMostAtAnyForce();
         runPrefersEarlierNetsAndPutsNoneLast();
         runLooksAtTheFirstNetsThatMust();
         probe();
@@ -231,6 +232,22 @@ public final class PromiseTest {
         q.force(2, 1);
         q.force(3, 1);
         CHECK.due("5: least force, then lowest", "1 4", () -> q.run(8) == 2 ? probesOf(q) : "");
+    }
+
+    /** Eight probes with all the force there is, or seven without any. */
+    private static void runPrefersMostAtAnyForce() {
+        ProbeChoice p = withNets(8);
+        for (int net = 0; net < 7; net++) {
+            p.point(net, 10 * net, 0, 1);
+            p.point(net, 500_000, 10 * net, 1);
+            p.force(2 * net + 1, 1_000_000);
+        }
+        CHECK.due("5: seven without force", 7, () -> p.run(8));
+        CHECK.due("5: no force", 0, p::forces);
+        p.point(7, 0, 0, 100_000);
+        p.force(14, 1_000_000);
+        CHECK.due("5: eight with all force", 8, () -> p.run(8));
+        CHECK.due("5: all force", 8_000_000, p::forces);
     }
 
     private static void runPrefersEarlierNetsAndPutsNoneLast() {
@@ -499,6 +516,11 @@ public final class PromiseTest {
         CHECK.due("16: below", NONE, () -> p.fly(-1));
         CHECK.due("16: far below", NONE, () -> p.fly(Integer.MIN_VALUE));
         CHECK.due("16: far behind", NONE, () -> p.fly(Integer.MAX_VALUE));
+        ProbeChoice rising = withNets(2);
+        rising.point(0, 0, 10, 1);
+        rising.point(1, 0, -10, 1);
+        rising.run(8);
+        CHECK.due("16: as far, and rising with the nets", 0, () -> rising.fly(0));
         ProbeChoice straight = withNets(2);
         straight.point(0, 70, 71, 1);
         straight.point(1, 99, 0, 1);
@@ -513,6 +535,11 @@ public final class PromiseTest {
         CHECK.due("17: the greater ways", 100 + 80 + 170 + 1_100, p::seconds);
         p.run(0);
         CHECK.due("17: no probes", 0, p::seconds);
+        ProbeChoice upright = withNets(2);
+        upright.point(0, 0, 30, 1);
+        upright.point(1, 5, 10, 1);
+        upright.run(8);
+        CHECK.due("17: along y", 10 + 20, upright::seconds);
         ProbeChoice far = withNets(2);
         far.point(0, 1_000_000, 1_000_000, 1);
         far.point(1, -1_000_000, -1_000_000, 1);
