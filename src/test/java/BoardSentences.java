@@ -7,28 +7,29 @@ final class BoardSentences {
     }
 
     void all() {
-        at512Calls();
-        termsNone();
-        termsNets();
-        termsPoints();
-        termsPlaces();
-        termsRadius();
-        termsForce();
-        termsGap();
-        termsApartByGapAndRadii();
-        promise1NoNets();
-        promise2ItsNumber();
-        promise2NoneWhenThereAre12();
-        promise3ItsNumber();
-        promise3NoneWhenTheNetHas3();
-        promise3NoSuchNet();
-        promise3NoPlace();
-        promise3NoRadius();
-        promise4WhetherAnother();
-        promise4NoGap();
-        promise18WhetherAnother();
-        promise18NoSuchPoint();
-        promise18NoForce();
+        s.each(
+                this::at512Calls,
+                this::termsNone,
+                this::termsNets,
+                this::termsPoints,
+                this::termsPlaces,
+                this::termsRadius,
+                this::termsForce,
+                this::termsGap,
+                this::termsApartByGapAndRadii,
+                this::promise1NoNets,
+                this::promise2ItsNumber,
+                this::promise2NoneWhenThereAre12,
+                this::promise3ItsNumber,
+                this::promise3NoneWhenTheNetHas3,
+                this::promise3NoSuchNet,
+                this::promise3NoPlace,
+                this::promise3NoRadius,
+                this::promise4WhetherAnother,
+                this::promise4NoGap,
+                this::promise18WhetherAnother,
+                this::promise18NoSuchPoint,
+                this::promise18NoForce);
     }
 
     private void at512Calls() {
@@ -207,15 +208,28 @@ final class BoardSentences {
 
     private void promise2NoneWhenThereAre12() {
         s.promise(2, "NONE when there are 12.");
-        ProbeChoice p = Told.withNets(11);
-        s.due("the 12th", 11, () -> p.net(false));
+        ProbeChoice p = withTwelve(false);
         s.none("a 13th that must be reached", () -> p.net(true));
-        s.none("a 13th that must not", () -> p.net(false));
         s.outOfBounds("a refused one is not there", () -> p.faults(12));
-        s.outOfBounds("nor has it points", () -> p.point(12, 0, 0, 1));
+        s.outOfBounds("nor can it have points", () -> p.point(12, 0, 0, 1));
+        s.due("the 12th still need not be reached", "0: ", () -> Told.run(p, 8));
+        s.due("nor does a refused one", true, p::proved);
+        ProbeChoice q = withTwelve(true);
+        s.none("a 13th that need not be reached", () -> q.net(false));
+        s.due("the 12th still must be", "1: 0", () -> Told.run(q, 8));
+        s.none("a 14th", () -> q.net(true));
+        s.due("nothing but the 12th must be", true, () -> q.run(1) == 1 && q.proved());
+    }
+
+    /** Eleven nets that need not be reached, and a twelfth with a point. */
+    private ProbeChoice withTwelve(boolean last) {
+        ProbeChoice p = new ProbeChoice();
+        for (int net = 0; net < 11; net++) {
+            p.net(false);
+        }
+        s.due("the 12th", 11, () -> p.net(last));
         p.point(11, 0, 0, 1);
-        s.due("the 12th is still one that must not", 0, () -> p.run(8));
-        s.none("a 14th", () -> p.net(true));
+        return p;
     }
 
     private void promise3ItsNumber() {
@@ -271,7 +285,9 @@ final class BoardSentences {
         s.illegal("y greatest", () -> p.point(0, 0, Long.MAX_VALUE, 1));
         s.illegal("y least", () -> p.point(0, 0, Long.MIN_VALUE, 1));
         s.illegal("x that is 5 as an int", () -> p.point(0, (1L << 32) + 5, 0, 1));
+        s.illegal("x below that is 5 as an int", () -> p.point(0, (-1L << 32) + 5, 0, 1));
         s.illegal("y that is 5 as an int", () -> p.point(0, 0, (1L << 32) + 5, 1));
+        s.illegal("y below that is 5 as an int", () -> p.point(0, 0, (-1L << 32) + 5, 1));
         for (int point = 0; point < 3; point++) {
             int number = point;
             s.due("no room was taken", number, () -> p.point(0, number, 0, 1));
@@ -287,6 +303,7 @@ final class BoardSentences {
         s.illegal("greatest", () -> p.point(0, 0, 0, Long.MAX_VALUE));
         s.illegal("least", () -> p.point(0, 0, 0, Long.MIN_VALUE));
         s.illegal("1 as an int", () -> p.point(0, 0, 0, (1L << 32) + 1));
+        s.illegal("below, 1 as an int", () -> p.point(0, 0, 0, (-1L << 32) + 1));
         s.due("no number was taken", 0, () -> p.point(0, 0, 0, 1));
     }
 
@@ -300,6 +317,11 @@ final class BoardSentences {
         s.due("the greatest again", false, () -> p.gap(1_000_000));
         s.due("back to 0", true, () -> p.gap(0));
         s.due("0 again", false, () -> p.gap(0));
+        ProbeChoice q = Told.withPlaces(0, 0, 9, 0);
+        q.gap(8);
+        s.due("it holds for the next run", 1, () -> q.run(8));
+        q.gap(7);
+        s.due("so does another", 2, () -> q.run(8));
     }
 
     private void promise4NoGap() {
@@ -311,6 +333,7 @@ final class BoardSentences {
         s.illegal("greatest", () -> p.gap(Long.MAX_VALUE));
         s.illegal("least", () -> p.gap(Long.MIN_VALUE));
         s.illegal("8 as an int", () -> p.gap((1L << 32) + 8));
+        s.illegal("below, 8 as an int", () -> p.gap((-1L << 32) + 8));
         s.due("refused ones change nothing", 2, () -> p.run(8));
         s.due("it is still the same", false, () -> p.gap(7));
     }
@@ -350,6 +373,7 @@ final class BoardSentences {
         s.illegal("greatest", () -> p.force(0, Long.MAX_VALUE));
         s.illegal("least", () -> p.force(0, Long.MIN_VALUE));
         s.illegal("6 as an int", () -> p.force(0, (1L << 32) + 6));
+        s.illegal("below, 6 as an int", () -> p.force(0, (-1L << 32) + 6));
         s.due("refused ones change nothing", 5, p::forces);
         s.due("it is still the same", false, () -> p.force(0, 5));
     }

@@ -21,18 +21,6 @@ final class Check {
         same(what, String.valueOf(want), told(call));
     }
 
-    void outOfBounds(String what, Call call) {
-        due(what, "throws.IndexOutOfBoundsException", call);
-    }
-
-    void illegal(String what, Call call) {
-        due(what, "throws.IllegalArgumentException", call);
-    }
-
-    void noState(String what, Call call) {
-        due(what, "throws.IllegalStateException", call);
-    }
-
     void same(String what, String want, String got) {
         if (want.equals(got)) {
             right++;

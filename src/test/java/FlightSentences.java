@@ -7,21 +7,22 @@ final class FlightSentences {
     }
 
     void all() {
-        promise16FromZero();
-        promise16Nearest();
-        promise16LowestPoint();
-        promise16NotYet();
-        promise16NotSoMany();
-        promise16Below();
-        promise17GreaterWay();
-        promise20FromZero();
-        promise20BehindTheLast();
-        promise20InOrder();
-        promise20Line();
-        promise20BelowZero();
-        promise21ByPlace();
-        promise21NotSoMany();
-        promise21Below();
+        s.each(
+                this::promise16FromZero,
+                this::promise16Nearest,
+                this::promise16LowestPoint,
+                this::promise16NotYet,
+                this::promise16NotSoMany,
+                this::promise16Below,
+                this::promise17GreaterWay,
+                this::promise20FromZero,
+                this::promise20BehindTheLast,
+                this::promise20InOrder,
+                this::promise20Line,
+                this::promise20BelowZero,
+                this::promise21ByPlace,
+                this::promise21NotSoMany,
+                this::promise21Below);
     }
 
     private static ProbeChoice flown(long... xys) {
@@ -104,6 +105,8 @@ final class FlightSentences {
         s.due("no probes", 0, () -> flown().seconds());
         s.due("to 0, 0", 0, () -> flown(0, 0).seconds());
         s.due("along x", 10, () -> flown(10, 9).seconds());
+        s.due("along x, to the left", 10, () -> flown(-10, 9).seconds());
+        s.due("along y", 10, () -> flown(-9, 10).seconds());
         s.due("along y, down", 10, () -> flown(9, -10).seconds());
         s.due("both alike", 10, () -> flown(-10, 10).seconds());
         s.due("y, then x, and not back", 10 + 20, () -> flown(0, 10, 20, 15).seconds());

@@ -7,25 +7,26 @@ final class PartSentences {
     }
 
     void all() {
-        termsResistances();
-        termsAtMost4();
-        termsSideBySide();
-        promise9True();
-        promise9OneNet();
-        promise9ThereAre4();
-        promise9NoSuchNets();
-        promise9NotSo();
-        promise9LowAboveHigh();
-        promise10AnEnd();
-        promise10LowestTerms();
-        promise10NoSuchNets();
-        promise10NoSuchEndOrPart();
-        promise10NoParts();
-        promise11Rising();
-        promise11Neither();
-        promise11NotSoMany();
-        promise11Below();
-        promise11NoSuchNets();
+        s.each(
+                this::termsResistances,
+                this::termsAtMost4,
+                this::termsSideBySide,
+                this::promise9True,
+                this::promise9OneNet,
+                this::promise9ThereAre4,
+                this::promise9NoSuchNets,
+                this::promise9NotSo,
+                this::promise9LowAboveHigh,
+                this::promise10AnEnd,
+                this::promise10LowestTerms,
+                this::promise10NoSuchNets,
+                this::promise10NoSuchEndOrPart,
+                this::promise10NoParts,
+                this::promise11Rising,
+                this::promise11Neither,
+                this::promise11NotSoMany,
+                this::promise11Below,
+                this::promise11NoSuchNets);
     }
 
     /** A board with one part of each of the resistances, all between the nets 0 and 1. */
@@ -149,6 +150,7 @@ final class PartSentences {
         s.illegal("low least", () -> p.part(0, 1, Long.MIN_VALUE, 1));
         s.illegal("high greatest", () -> p.part(0, 1, 1, Long.MAX_VALUE));
         s.illegal("low 1 as an int", () -> p.part(0, 1, (1L << 32) + 1, (1L << 32) + 1));
+        s.illegal("low below, 1 as an int", () -> p.part(0, 1, (-1L << 32) + 1, 1));
         s.illegal("high 2 as an int", () -> p.part(0, 1, 1, (1L << 32) + 2));
         s.noState("refused ones are not there", () -> p.span(0, 1, 0, 0));
         for (int i = 0; i < 4; i++) {

@@ -7,22 +7,23 @@ final class RowSentences {
     }
 
     void all() {
-        termsTwoNets();
-        termsExplained();
-        termsSmallest();
-        termsLowestLeast();
-        termsLowestSecond();
-        promise12Failed();
-        promise12Already();
-        promise12OneNet();
-        promise12NoSuchNets();
-        promise13HowMany();
-        promise14Rising();
-        promise14HowManyRows();
-        promise14NoneSuch();
-        promise14What();
-        promise15HowMany();
-        promise15NoSuchNet();
+        s.each(
+                this::termsTwoNets,
+                this::termsExplained,
+                this::termsSmallest,
+                this::termsLowestLeast,
+                this::termsLowestSecond,
+                this::promise12Failed,
+                this::promise12Already,
+                this::promise12OneNet,
+                this::promise12NoSuchNets,
+                this::promise13HowMany,
+                this::promise14Rising,
+                this::promise14HowManyRows,
+                this::promise14NoneSuch,
+                this::promise14What,
+                this::promise15HowMany,
+                this::promise15NoSuchNet);
     }
 
     /** A board of 12 nets on which the rows failed, each told as 100 times a net and another. */

@@ -7,28 +7,29 @@ final class RunSentences {
     }
 
     void all() {
-        termsFirstNets();
-        termsOnePointOrNone();
-        termsAllAtOnce();
-        termsMost();
-        termsLeastForce();
-        termsLowestOfTheFirstNet();
-        termsThenTheSecondNet();
-        termsLeftOut();
-        promise5SoManyNets();
-        promise5HowMany();
-        promise5UntilTheNextOne();
-        promise5NotSoMany();
-        promise6ByNets();
-        promise6NotSoMany();
-        promise6Below();
-        promise6NoRun();
-        promise7AllThatMust();
-        promise7WithoutAny();
-        promise8LeftOut();
-        promise8Likewise();
-        promise19Sum();
-        promise19AsNow();
+        s.each(
+                this::termsFirstNets,
+                this::termsOnePointOrNone,
+                this::termsAllAtOnce,
+                this::termsMost,
+                this::termsLeastForce,
+                this::termsLowestOfTheFirstNet,
+                this::termsThenTheSecondNet,
+                this::termsLeftOut,
+                this::promise5SoManyNets,
+                this::promise5HowMany,
+                this::promise5UntilTheNextOne,
+                this::promise5NotSoMany,
+                this::promise6ByNets,
+                this::promise6NotSoMany,
+                this::promise6Below,
+                this::promise6NoRun,
+                this::promise7AllThatMust,
+                this::promise7WithoutAny,
+                this::promise8LeftOut,
+                this::promise8Likewise,
+                this::promise19Sum,
+                this::promise19AsNow);
     }
 
     /** Twelve nets side by side, each with a point of its own number; net 1 need not be reached. */
@@ -85,6 +86,12 @@ final class RunSentences {
         s.due("just so", "2: 0 2", () -> Told.run(p, 8));
         p.gap(3);
         s.due("the ends are too near", "1: 0", () -> Told.run(p, 8));
+        p.gap(0);
+        s.due("near enough again", "3: 0 1 2", () -> Told.run(p, 8));
+        ProbeChoice q = Told.withPlaces(0, 0, 100, 0, 1, 0);
+        s.due("the first and the third are too near", "2: 0 1", () -> Told.run(q, 8));
+        ProbeChoice r = Told.withPlaces(0, 0, 100, 0, 101, 0, 1, 0);
+        s.due("so are two in the middle", "2: 0 1", () -> Told.run(r, 8));
     }
 
     private void termsMost() {
@@ -188,6 +195,11 @@ final class RunSentences {
         ProbeChoice bare = Told.withNets(8);
         bare.run(8);
         s.due("no points at all", "0 1 2 3 4 5 6 7", () -> Told.outs(bare));
+        ProbeChoice need = new ProbeChoice();
+        need.net(false);
+        need.net(true);
+        need.run(8);
+        s.due("not one that need not be reached", "1", () -> Told.outs(need));
         ProbeChoice q = twelveButOne();
         q.run(8);
         s.due("not those that the run did not look at", "", () -> Told.outs(q));
@@ -253,6 +265,7 @@ final class RunSentences {
         s.illegal("greatest", () -> p.run(Long.MAX_VALUE));
         s.illegal("0 as an int", () -> p.run(1L << 32));
         s.illegal("8 as an int", () -> p.run((1L << 32) + 8));
+        s.illegal("below, 8 as an int", () -> p.run((-1L << 32) + 8));
         s.due("refused ones leave the latest run's probes", "0", () -> Told.probes(p));
         s.due("and what it left out", "1", () -> Told.outs(p));
         s.due("and its text", "p0 0 0\n", () -> Told.text(p));

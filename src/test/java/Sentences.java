@@ -18,6 +18,17 @@ final class Sentences {
     private final Map<String, Integer> checksOf = new LinkedHashMap<>();
     private String at;
 
+    /** Goes through all of them: one whose board can't be set up is wrong, and stops no other. */
+    void each(Runnable... tests) {
+        for (Runnable test : tests) {
+            try {
+                test.run();
+            } catch (RuntimeException e) {
+                check.same("'" + at + "' was left, as a call before its checks threw", "", "" + e);
+            }
+        }
+    }
+
     /** What follows holds to a sentence of a promise. */
     void promise(int number, String sentence) {
         begin("Promise " + number, sentence);
@@ -69,9 +80,10 @@ final class Sentences {
     private void lookUp(String document) {
         Map<String, String> sections = sectionsOf(document);
         for (int number = 1; number <= PROMISES; number++) {
-            lookUpAll("Promise " + number, textOfPromise(sections.get("Promise " + number)));
+            String heading = "Promise " + number;
+            lookUpAll(heading, textOfPromise(sections.getOrDefault(heading, "")));
         }
-        lookUpAll(TERMS, sections.get(TERMS));
+        lookUpAll(TERMS, sections.getOrDefault(TERMS, ""));
     }
 
     /** The text below each heading; of a promise's heading only what stands before the colon. */
@@ -89,7 +101,7 @@ final class Sentences {
 
     /** Without the face that each promise begins with. */
     private static String textOfPromise(String section) {
-        return section == null ? "" : section.replaceFirst("^`[^`]*`: ", "");
+        return section.replaceFirst("^`[^`]*`: ", "");
     }
 
     private void lookUpAll(String heading, String text) {
