@@ -141,7 +141,7 @@ public final class ModelTest {
 
     private void callRows() {
         int row = random.nextInt(4) == 0 ? number(200) : 16 * random.nextInt(12) + random.nextInt(12);
-        int k = number(8);
+        int k = number(13);
         int what = number(2);
         switch (random.nextInt(4)) {
             case 0 -> both("suspects()", real::suspects, model::suspects);
